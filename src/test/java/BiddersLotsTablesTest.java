@@ -31,6 +31,12 @@ public final class BiddersLotsTablesTest {
         for (int i = 0; i < 7; i++) d *= 31;
         Check.due("1 digest", x.digest(), d);
         for (int kind = 1; kind <= 5; kind++) Check.due("1 tax", x.tax(kind, 0), 0);
+        Check.due("1 no bidder", x.pay(0, 1), -2);
+        Check.due("1 no lot", x.call(0), -2);
+        Check.due("1 empty steps", x.step(0, 1), 1);
+        Check.due("1 then there is one row", x.step(0, 1), -10);
+        Check.due("1 empty brackets", x.premium(0, 1), 1);
+        Check.due("1 then there is one row", x.premium(0, 1), -10);
     }
 
     private static void promise2Bidder() {

@@ -5,6 +5,7 @@ public final class EndsTest {
         promise18SaleIsShared();
         promise18NoSeller();
         promise18GreatSums();
+        promise18OneCent();
         promise19Join();
         promise20SettleReasons();
         promise20WholeOrParts();
@@ -96,6 +97,20 @@ public final class EndsTest {
         Check.due("18 total", x.total(), 0);
     }
 
+    private static void promise18OneCent() {
+        AuctionRoom x = Check.room();
+        x.lot(1, 1, 0);
+        x.call(0);
+        x.bid(0, 0, 1);
+        Check.due("18 no seller of a cent", x.hammer(0), -5);
+        int l = Check.calledLot(x, 1, 1, 0);
+        x.bid(l, 0, 1);
+        Check.due("18 a cent", x.hammer(l), 1);
+        Check.due("18 state", x.state(l), 2);
+        Check.due("18 buyer", x.balance(0), -1);
+        Check.due("18 seller", x.balance(5), 1);
+    }
+
     private static void promise19Join() {
         AuctionRoom x = Check.room();
         for (int l = 0; l < 3; l++) x.lot(1 + l, 10, 0);
@@ -163,6 +178,16 @@ public final class EndsTest {
         for (int l = 0; l < 3; l++) Check.due("20 passed", x.state(l), 3);
         Check.due("20 ended", x.settle(2), -9);
         Check.due("20 still joined", x.settle(1), -14);
+        for (int missing = 4; missing < 7; missing++) {
+            x = Check.room();
+            for (int l = 0; l < 7; l++) x.lot(1, 10, 0);
+            x.join(5, 4, 6);
+            for (int l = 4; l < 7; l++) if (l != missing) x.call(l);
+            Check.due("20 one is not called", x.settle(5), -6);
+            Check.trace("20 no body runs", x);
+            x.call(missing);
+            Check.due("20 all are called", x.settle(5), 0);
+        }
     }
 
     private static void promise20WholeOrParts() {
@@ -283,6 +308,16 @@ public final class EndsTest {
         Check.due("21 it is sealed again", x.bid(s, 0, 120), x.numbers(0));
         Check.due("21 sealed yet", x.sumAt(s, 0), -7);
         Check.due("21 open", x.open(s), 100);
+
+        int fewer = Check.calledLot(x, 4, 10, 100);
+        x.bid(fewer, 0, 98);
+        x.bid(fewer, 1, 99);
+        x.hammer(fewer);
+        x.reoffer(fewer, 10);
+        x.call(fewer);
+        x.bid(fewer, 0, 300);
+        Check.due("21 old entries are gone", x.entries(fewer), 1);
+        Check.due("21 they are no second greatest", x.open(fewer), 100);
     }
 
     private static void promise21Parts() {

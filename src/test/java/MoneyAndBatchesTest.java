@@ -9,6 +9,7 @@ public final class MoneyAndBatchesTest {
         promise26Undo();
         promise26UndoGivesAllBack();
         promise26UndoOfReofferAndJoin();
+        promise26UndoOfMuch();
         refusedActTakesAllBack();
         Check.end();
     }
@@ -190,6 +191,27 @@ public final class MoneyAndBatchesTest {
         x.reoffer(0, 10);
         x.call(0);
         Check.due("26 it is not joined", x.hammer(0), 0);
+    }
+
+    private static void promise26UndoOfMuch() {
+        AuctionRoom x = Check.room();
+        int l = Check.calledLot(x, 1, 1, 0);
+        x.limit(l, 2, 1000);
+        long before = x.digest();
+        x.batch();
+        for (int i = 0; i < 149; i++) x.bid(l, i % 2, 2 + 2 * i);
+        x.batch();
+        for (int i = 0; i < 200; i++) x.pay(i % 6, 1 + i);
+        Check.due("26 entries", x.entries(l), 299);
+        Check.due("26 inner", x.undo(), 1);
+        Check.due("26 till", x.account(2), 0);
+        Check.due("26 entries stay", x.entries(l), 299);
+        Check.due("26 outer", x.undo(), 0);
+        Check.due("26 digest", x.digest(), before);
+        Check.due("26 stands", x.sum(l), 1);
+        Check.due("26 cause", x.cause(l, 0), 1);
+        Check.due("26 bid", x.bid(l, 0, 2), 151);
+        Check.due("26 papers", x.sum(l), 3);
     }
 
     private static void refusedActTakesAllBack() {

@@ -11,6 +11,7 @@ public final class QuestionsTest {
         promises34To36Money();
         promise37Numbers();
         promises38And39TriesAndWhy();
+        promise38EachActIsATry();
         promise40Trace();
         promise41Batches();
         promise42Digest();
@@ -177,6 +178,18 @@ public final class QuestionsTest {
         Check.due("39 done again", x.why(), 0);
     }
 
+    private static void promise38EachActIsATry() {
+        AuctionRoom x = new AuctionRoom();
+        long[] answers = {
+            x.bidder(0, 0), x.lot(0, 0, 0), x.seller(0, 0), x.cut(0, 0), x.step(0, 0), x.premium(0, -1),
+            x.tax(0, 0), x.call(0), x.bid(0, 0, 1), x.limit(0, 0, 1), x.ask(0), x.open(0), x.tick(0, 1),
+            x.take(0, 0), x.bidderAt(0, 0), x.sumAt(0, 0), x.hammer(0), x.join(0, 1, 2), x.settle(0),
+            x.reoffer(0, 1), x.pay(0, 1), x.payOut(0, 1), x.end(), x.undo(), x.batch()};
+        for (int i = 0; i < answers.length - 1; i++) Check.due("38 refused act " + i, answers[i] < 0 ? 1 : 0, 1);
+        Check.due("38 tries", x.tries(), answers.length);
+        Check.due("39 why", x.why(), 0);
+    }
+
     private static void promise40Trace() {
         AuctionRoom x = new AuctionRoom();
         x.bidder(3, Check.SUM);
@@ -218,6 +231,7 @@ public final class QuestionsTest {
         AuctionRoom x = new AuctionRoom();
         x.bidder(1, 0);
         x.bidder(3, 500);
+        x.bidder(4, 0);
         x.pay(0, 50);
         x.lot(2, 10, 0);
         x.lot(4, 10, 0);
@@ -226,18 +240,18 @@ public final class QuestionsTest {
         x.step(0, 1);
         x.step(5, 1);
         x.premium(0, 1000);
-        x.tax(2, 1000);
+        x.tax(2, 2000);
         Check.due("42 new lots", x.digest(),
-            over(2, 1, 50, 3, 0, 2, 2, 0, -1, 0, -1, 1, 1, 4, 0, -1, 0, -1, 0, 0, 0, 0, -50, 2, 1));
+            over(3, 1, 50, 3, 0, 4, 0, 2, 2, 0, -1, 0, -1, 1, 1, 4, 0, -1, 0, -1, 0, 0, 0, 0, -50, 2, 1));
         x.call(0);
         x.call(1);
         x.bid(1, 0, 15);
         Check.due("42 called lots", x.digest(),
-            over(2, 1, 50, 3, 0, 2, 2, 1, 1, 10, 1, 1, 1, 4, 1, -1, 0, 1, 0, 0, 0, 0, -50, 2, 1));
+            over(3, 1, 50, 3, 0, 4, 0, 2, 2, 1, 1, 10, 1, 1, 1, 4, 1, -1, 0, 1, 0, 0, 0, 0, -50, 2, 1));
         x.hammer(0);
         x.open(1);
-        // h is 20, p 2, t 2.2; he that buys it sells it.
+        // h is 20, p 2, t 4.4; he that buys it sells it.
         Check.due("42 a sold lot", x.digest(),
-            over(2, 1, 50, 3, -4, 2, 2, 2, 1, 10, 1, 1, 1, 4, 1, 0, 10, 1, 0, 0, 2, 2, -50, 2, 1));
+            over(3, 1, 50, 3, -6, 4, 0, 2, 2, 2, 1, 10, 1, 1, 1, 4, 1, 0, 10, 1, 0, 0, 2, 4, -50, 2, 1));
     }
 }
